@@ -1,0 +1,107 @@
+import java.io.IOException;
+import java.lang.reflect.Constructor;
+import java.lang.reflect.Field;
+import java.lang.reflect.Method;
+import java.lang.reflect.Modifier;
+import java.nio.file.Files;
+import java.nio.file.Path;
+import java.util.TreeSet;
+import java.util.regex.Matcher;
+import java.util.regex.Pattern;
+
+/** The public face is the document's, and the program leaves out what LANGUAGE.md leaves out. */
+public final class FaceTest {
+    private static final String FACE = """
+            final ShapeForms
+            static final int NONE
+            new ()
+            boolean corner(int,long,long)
+            boolean inside(int,long,long)
+            boolean ring(int)
+            boolean same(int,int)
+            int box(long,long,long,long,long)
+            int circle(long,long,long)
+            int grow(int,long)
+            int kind(int)
+            int nearer(int,int,long)
+            int polygon()
+            int trace(long)
+            int turn(int,int,boolean)
+            long boxOf(int,int)
+            """;
+
+    public static void main(String[] args) throws IOException {
+        Check.due("the face", FACE, FaceTest::face);
+        Path program = Path.of(args.length > 0 ? args[0] : "src/main/java/ShapeForms.java");
+        String source = withoutComments(Files.readString(program));
+        for (String word : new String[] {"import", "package", "try", "catch", "finally", "synchronized", "assert",
+                "native", "protected", "double", "float", "var", "lambda"}) {
+            Check.due("the program has no " + word, false, () -> has(source, "\\b" + word + "\\b"));
+        }
+        Check.due("no lambda", false, () -> has(source, "->"));
+        Check.due("no method reference", false, () -> has(source, "::"));
+        Check.due("none of Math's Exact", false, () -> has(source, "Exact\\s*\\("));
+        Check.due("at most twelve classes", true, () -> ShapeForms.class.getDeclaredClasses().length < 12);
+        for (Class<?> inner : ShapeForms.class.getDeclaredClasses()) {
+            Check.due(inner + " is static", true, () -> Modifier.isStatic(inner.getModifiers()));
+        }
+        Check.due("methods take at most seven parameters", true, FaceTest::fewParameters);
+        Check.end("FaceTest");
+    }
+
+    private static String face() {
+        StringBuilder text = new StringBuilder();
+        text.append(Modifier.isFinal(ShapeForms.class.getModifiers()) ? "final " : "").append("ShapeForms\n");
+        for (Field field : ShapeForms.class.getDeclaredFields()) {
+            if (!Modifier.isPrivate(field.getModifiers())) {
+                text.append("static final ").append(field.getType()).append(' ').append(field.getName()).append('\n');
+            }
+        }
+        for (Constructor<?> made : ShapeForms.class.getDeclaredConstructors()) {
+            text.append("new ").append(parameters(made.getParameterTypes())).append('\n');
+        }
+        TreeSet<String> methods = new TreeSet<>();
+        TreeSet<String> names = new TreeSet<>();
+        for (Method method : ShapeForms.class.getDeclaredMethods()) {
+            if (Modifier.isPrivate(method.getModifiers())) {
+                names.add(method.getName());
+            } else {
+                methods.add(method.getReturnType() + " " + method.getName() + parameters(method.getParameterTypes()));
+            }
+        }
+        for (String method : methods) {
+            text.append(method).append('\n');
+            if (names.contains(method.replaceAll(".* (\\w+)\\(.*", "$1"))) {
+                text.append("a private method bears that name, too\n");
+            }
+        }
+        return text.toString();
+    }
+
+    private static String parameters(Class<?>[] types) {
+        StringBuilder text = new StringBuilder("(");
+        for (Class<?> type : types) {
+            text.append(text.length() > 1 ? "," : "").append(type.getSimpleName());
+        }
+        return text.append(')').toString();
+    }
+
+    private static boolean fewParameters() {
+        boolean few = true;
+        for (Class<?> inner : ShapeForms.class.getDeclaredClasses()) {
+            for (Method method : inner.getDeclaredMethods()) {
+                few &= method.getParameterCount() <= 7;
+            }
+        }
+        return few;
+    }
+
+    private static String withoutComments(String source) {
+        return source.replaceAll("(?s)/\\*.*?\\*/", "").replaceAll("//[^\n]*", "");
+    }
+
+    private static boolean has(String source, String pattern) {
+        Matcher matcher = Pattern.compile(pattern).matcher(source);
+        return matcher.find();
+    }
+}

@@ -1,0 +1,122 @@
+/** Promise 9: inside. */
+public final class InsideTest {
+    public static void main(String[] args) {
+        circles();
+        boxes();
+        polygons();
+        concave();
+        traces();
+        great();
+        wrongCalls();
+        Check.end("InsideTest");
+    }
+
+    private static void circles() {
+        ShapeForms forms = new ShapeForms();
+        int circle = forms.circle(0, 0, 5);
+        int point = forms.circle(3, 4, 0);
+        Check.due("9: on the edge", true, () -> forms.inside(circle, 3, 4));
+        Check.due("9: just out", false, () -> forms.inside(circle, 4, 4));
+        Check.due("9: the middle", true, () -> forms.inside(circle, 0, 0));
+        Check.due("9: a circle of one place", true, () -> forms.inside(point, 3, 4));
+        Check.due("9: beside it", false, () -> forms.inside(point, 3, 5));
+    }
+
+    private static void boxes() {
+        ShapeForms forms = new ShapeForms();
+        int box = forms.box(0, 0, 20, 30, 5);
+        Check.due("9: the middle", true, () -> forms.inside(box, 10, 15));
+        Check.due("9: a side", true, () -> forms.inside(box, 0, 15));
+        Check.due("9: on the round corner", true, () -> forms.inside(box, 2, 1));
+        Check.due("9: out of the round corner", false, () -> forms.inside(box, 1, 1));
+        Check.due("9: beside", false, () -> forms.inside(box, 21, 15));
+        Check.due("9: above", false, () -> forms.inside(box, 10, 31));
+    }
+
+    private static void polygons() {
+        ShapeForms forms = new ShapeForms();
+        int frame = Make.frame(forms);
+        Make.ring(forms, frame, 8, 8, 12, 8, 12, 12, 8, 12);
+        Make.ring(forms, frame, 30, 0, 40, 0, 40, 10);
+        Check.due("9: the outer ring", true, () -> forms.inside(frame, 20, 10));
+        Check.due("9: a corner", true, () -> forms.inside(frame, 0, 0));
+        Check.due("9: in the frame", true, () -> forms.inside(frame, 2, 10));
+        Check.due("9: the hole's edge", true, () -> forms.inside(frame, 5, 10));
+        Check.due("9: the hole", false, () -> forms.inside(frame, 6, 10));
+        Check.due("9: the hole, level with corners", false, () -> forms.inside(frame, 6, 8));
+        Check.due("9: the isle in the hole", true, () -> forms.inside(frame, 10, 10));
+        Check.due("9: the piece beside", true, () -> forms.inside(frame, 38, 4));
+        Check.due("9: its slant side", true, () -> forms.inside(frame, 35, 5));
+        Check.due("9: out of its slant side", false, () -> forms.inside(frame, 35, 6));
+        Check.due("9: between the pieces", false, () -> forms.inside(frame, 25, 5));
+        int grown = forms.grow(frame, 1);
+        Check.due("9: grown, in the hole's edge", true, () -> forms.inside(grown, 6, 10));
+        Check.due("9: grown, the hole's corner", true, () -> forms.inside(grown, 6, 6));
+        Check.due("9: grown, the hole's edge is filled up by the isle's", true, () -> forms.inside(grown, 7, 10));
+        Check.due("9: grown, the outer corner is round", false, () -> forms.inside(grown, -1, -1));
+        Check.due("9: grown, deep within", true, () -> forms.inside(grown, 10, 10));
+    }
+
+    private static void concave() {
+        ShapeForms forms = new ShapeForms();
+        int star = Make.polygon(forms, 0, 0, 10, 5, 20, 0, 15, 10, 20, 20, 10, 15, 0, 20, 5, 10);
+        Check.due("9: level with a corner, left of it", false, () -> forms.inside(star, 4, 10));
+        Check.due("9: level with a corner, on it", true, () -> forms.inside(star, 5, 10));
+        Check.due("9: level with a corner, right of it", true, () -> forms.inside(star, 6, 10));
+        Check.due("9: level with the lowest corners", false, () -> forms.inside(star, 10, 0));
+        Check.due("9: level with the upper corners", false, () -> forms.inside(star, 10, 20));
+        Check.due("9: left of the lowest corners", false, () -> forms.inside(star, -5, 0));
+        int step = Make.polygon(forms, 0, 0, 10, 0, 10, 5, 20, 5, 20, 10, 0, 10);
+        Check.due("9: level with a side, within", true, () -> forms.inside(step, 4, 5));
+        Check.due("9: level with a side, left", false, () -> forms.inside(step, -4, 5));
+        Check.due("9: level with a side, right", false, () -> forms.inside(step, 24, 5));
+        Check.due("9: under the step", false, () -> forms.inside(step, 14, 4));
+    }
+
+    private static void traces() {
+        ShapeForms forms = new ShapeForms();
+        int trace = Make.trace(forms, 10, 0, 0, 30, 40, 30, 0);
+        Check.due("9: beside a slant piece, just that far", true, () -> forms.inside(trace, 11, 23));
+        Check.due("9: a little farther", false, () -> forms.inside(trace, 10, 23));
+        Check.due("9: behind its end", true, () -> forms.inside(trace, -3, -4));
+        Check.due("9: farther behind its end", false, () -> forms.inside(trace, -4, -4));
+        Check.due("9: it is not closed", false, () -> forms.inside(trace, 15, 0));
+        Check.due("9: it is not filled", false, () -> forms.inside(trace, 20, 12));
+        int thin = Make.trace(forms, 0, 0, 0, 9, 6);
+        Check.due("9: on a piece of no width", true, () -> forms.inside(thin, 6, 4));
+        Check.due("9: beside it", false, () -> forms.inside(thin, 6, 5));
+        Check.due("9: on its line, behind it", false, () -> forms.inside(thin, 12, 8));
+        int dot = Make.trace(forms, 4, 7, 7);
+        Check.due("9: one corner alone", true, () -> forms.inside(dot, 9, 7));
+        Check.due("9: round about it", false, () -> forms.inside(dot, 9, 9));
+    }
+
+    private static void great() {
+        ShapeForms forms = new ShapeForms();
+        int line = Make.trace(forms, 0, -Make.FAR, -Make.FAR, Make.FAR, Make.FAR - 1);
+        Check.due("9: past a long line by the least", false, () -> forms.inside(line, 0, 0));
+        Check.due("9: its end", true, () -> forms.inside(line, Make.FAR, Make.FAR - 1));
+        int wide = forms.grow(line, 1);
+        Check.due("9: a radius of 1 gets there", true, () -> forms.inside(wide, 0, 0));
+        int half = Make.trace(forms, 2 * 707_106_781L, -Make.FAR, Make.FAR, Make.FAR, -Make.FAR);
+        Check.due("9: 500,000,000 * root 2 is above 707,106,781", false, () -> forms.inside(half, Make.FAR, Make.FAR));
+        Check.due("9: and below that and 1", true, () -> forms.inside(forms.grow(half, 1), Make.FAR, Make.FAR));
+        int all = forms.circle(-Make.FAR, -Make.FAR, Make.BILLION);
+        Check.due("9: the greatest radius", true, () -> forms.inside(all, Make.FAR, -Make.FAR));
+        Check.due("9: over it", false, () -> forms.inside(all, Make.FAR, 1 - Make.FAR));
+    }
+
+    private static void wrongCalls() {
+        ShapeForms forms = new ShapeForms();
+        int circle = forms.circle(0, 0, 5);
+        int unfinished = Make.unfinished(forms);
+        int trace = forms.trace(2);
+        Check.noSuch("9: no such shape", () -> forms.inside(3, 0, 0));
+        Check.noSuch("9: below 0, and no place", () -> forms.inside(-1, Make.FAR + 1, 0));
+        Check.badState("9: not whole", () -> forms.inside(unfinished, 0, 0));
+        Check.badState("9: no corners, and no place", () -> forms.inside(trace, Make.FAR + 1, 0));
+        Check.badArgument("9: x no place", () -> forms.inside(circle, -Make.FAR - 1, 0));
+        Check.badArgument("9: y no place", () -> forms.inside(circle, 0, Make.FAR + 1));
+        Check.badArgument("9: the least long", () -> forms.inside(circle, Long.MIN_VALUE, Long.MIN_VALUE));
+    }
+}

@@ -1,0 +1,144 @@
+/** Promise 10: nearer. */
+public final class NearerTest {
+    public static void main(String[] args) {
+        circles();
+        exactCorners();
+        polygons();
+        isles();
+        traces();
+        great();
+        wrongCalls();
+        Check.end("NearerTest");
+    }
+
+    /** The distance of two shapes is just this one, told from both sides. */
+    private static void apart(String what, ShapeForms forms, int a, int b, long distance) {
+        between(what, forms, a, b, distance, distance);
+    }
+
+    /** The distance is at least the first number and at most the second, and neither if they differ. */
+    private static void between(String what, ShapeForms forms, int a, int b, long low, long high) {
+        int atEnd = low == high ? 0 : 1;
+        Check.due("10: " + what, low == high ? 0 : -1, () -> forms.nearer(a, b, low));
+        Check.due("10: " + what + ", turned round", atEnd, () -> forms.nearer(b, a, high));
+        if (low > 0) {
+            Check.due("10: " + what + ", one less", -1, () -> forms.nearer(a, b, low - 1));
+        }
+        Check.due("10: " + what + ", one more", 1, () -> forms.nearer(b, a, high + 1));
+    }
+
+    private static void circles() {
+        ShapeForms forms = new ShapeForms();
+        int circle = forms.circle(0, 0, 5);
+        apart("touching circles", forms, circle, forms.circle(13, 0, 8), 0);
+        apart("one in the other", forms, circle, forms.circle(1, 0, 2), 0);
+        apart("a shape and itself", forms, circle, circle, 0);
+        apart("30, 40", forms, circle, forms.circle(30, 40, 10), 35);
+        between("10, 11", forms, circle, forms.circle(10, 11, 0), 9, 10);
+        int point = forms.circle(3, 3, 0);
+        apart("a place and itself", forms, point, point, 0);
+        apart("two places", forms, point, forms.circle(3, 4, 0), 1);
+    }
+
+    private static void exactCorners() {
+        ShapeForms forms = new ShapeForms();
+        int box = forms.box(0, 0, 10, 10, 0);
+        apart("box and box, a corner each", forms, box, forms.box(13, 14, 5, 5, 0), 5);
+        apart("box and box, side by side", forms, box, forms.box(12, -3, 5, 30, 0), 2);
+        apart("box in box", forms, box, forms.box(3, 3, 2, 2, 0), 0);
+        apart("box across box", forms, box, forms.box(-5, 4, 30, 2, 0), 0);
+        apart("boxes with a corner in common", forms, box, forms.box(10, 10, 3, 3, 0), 0);
+        apart("round box and circle", forms, forms.box(20, 20, 10, 10, 3), forms.circle(36, 39, 2), 10);
+        apart("box and a piece", forms, box, forms.box(12, 4, 9, 0, 0), 2);
+        apart("slant side, 3 : 4 : 5", forms, Make.trace(forms, 0, 100, 0, 140, 30), forms.circle(117, 19, 1), 4);
+        between("slant side, no whole distance", forms, Make.trace(forms, 0, 200, 0, 300, 1),
+                forms.circle(250, 7, 0), 6, 7);
+    }
+
+    private static void polygons() {
+        ShapeForms forms = new ShapeForms();
+        int frame = Make.frame(forms);
+        int grown = forms.grow(frame, 3);
+        int pin = forms.circle(10, 10, 1);
+        apart("in the hole", forms, frame, pin, 4);
+        apart("in the shrunk hole", forms, grown, pin, 1);
+        apart("in the frame's flesh", forms, frame, forms.circle(2, 2, 0), 0);
+        apart("on the hole's edge", forms, frame, forms.circle(5, 7, 0), 0);
+        apart("a box in the hole", forms, frame, forms.box(7, 8, 5, 5, 0), 2);
+        apart("a box in the flesh", forms, frame, forms.box(1, 1, 2, 2, 0), 0);
+        apart("a box around all", forms, frame, forms.box(-9, -9, 40, 40, 0), 0);
+        int ring = Make.polygon(forms, -9, -9, 40, -9, 40, 40, -9, 40);
+        Make.ring(forms, ring, -4, -4, 26, -4, 26, 26, -4, 26);
+        apart("a wider frame around it", forms, frame, ring, 4);
+        apart("grown, the frames touch", forms, grown, forms.grow(ring, 1), 0);
+    }
+
+    private static void isles() {
+        ShapeForms forms = new ShapeForms();
+        int two = Make.polygon(forms, 0, 0, 10, 0, 0, 10);
+        Make.ring(forms, two, 100, 0, 120, 0, 120, 20, 100, 20);
+        apart("a box in the second isle", forms, two, forms.box(105, 5, 3, 3, 0), 0);
+        apart("a circle by the second isle", forms, two, forms.circle(130, 10, 4), 6);
+        apart("a trace in the second isle", forms, two, Make.trace(forms, 2, 110, 10, 111, 11), 0);
+        int around = Make.polygon(forms, 300, 300, 310, 300, 300, 310);
+        Make.ring(forms, around, 90, -10, 130, -10, 130, 30, 90, 30);
+        apart("the second isle in the other's second isle", forms, two, around, 0);
+        int hole = Make.polygon(forms, 200, 0, 220, 0, 220, 20, 200, 20);
+        Make.ring(forms, hole, 202, 2, 218, 2, 218, 18, 202, 18);
+        Make.ring(forms, hole, 208, 8, 212, 8, 212, 12, 208, 12);
+        apart("between hole and isle", forms, hole, forms.circle(206, 10, 0), 2);
+        apart("in the isle in the hole", forms, hole, forms.circle(210, 10, 0), 0);
+    }
+
+    private static void traces() {
+        ShapeForms forms = new ShapeForms();
+        int trace = Make.trace(forms, 2, 0, 0, 10, 0, 10, 10);
+        apart("crossing traces", forms, trace, Make.trace(forms, 0, 5, -5, 5, 5), 0);
+        apart("a trace is not closed", forms, trace, forms.circle(2, 8, 0), 7);
+        apart("side by side", forms, trace, Make.trace(forms, 4, 0, -10, 30, -10), 7);
+        apart("end to piece", forms, trace, Make.trace(forms, 0, 14, 5, 20, 9), 3);
+        apart("piece to end", forms, trace, Make.trace(forms, 0, 0, 20, 20, 20), 9);
+        apart("on one line", forms, Make.trace(forms, 0, 0, 40, 5, 40), Make.trace(forms, 0, 8, 40, 9, 40), 3);
+        apart("one corner alone", forms, trace, Make.trace(forms, 2, 4, 7), 4);
+        apart("closed round a place, it holds it not", forms,
+                Make.trace(forms, 0, 50, 50, 60, 50, 60, 60, 50, 60, 50, 50), forms.circle(55, 55, 1), 4);
+    }
+
+    private static void great() {
+        ShapeForms forms = new ShapeForms();
+        int low = forms.circle(-Make.FAR, -Make.FAR, 0);
+        int high = forms.circle(Make.FAR, Make.FAR, 0);
+        Check.due("10: the farthest places", -1, () -> forms.nearer(low, high, Make.BILLION));
+        between("10^9 * root 2", forms, forms.grow(low, Make.FAR), high, 914_213_562L, 914_213_563L);
+        apart("the greatest radii", forms, forms.grow(low, Make.BILLION), forms.grow(high, Make.BILLION), 0);
+        Check.due("10: the greatest reach", 1,
+                () -> forms.nearer(forms.grow(low, Make.BILLION), forms.grow(low, Make.BILLION), Make.BILLION));
+        int line = Make.trace(forms, 0, -Make.FAR, -Make.FAR, Make.FAR, Make.FAR - 1);
+        int cross = Make.trace(forms, 0, -Make.FAR, Make.FAR, 0, 0);
+        between("a hair's breadth", forms, line, forms.circle(0, 0, 0), 0, 1);
+        between("short of crossing by a hair", forms, line, cross, 0, 1);
+        int beyond = Make.trace(forms, 0, -Make.FAR, Make.FAR, 0, -1);
+        apart("crossing by a hair", forms, line, beyond, 0);
+        int wall = Make.trace(forms, 0, Make.FAR, -Make.FAR, Make.FAR, Make.FAR);
+        Check.due("10: a thousand million", 0, () -> forms.nearer(wall, low, Make.BILLION));
+        Check.due("10: and one less", -1, () -> forms.nearer(low, wall, Make.BILLION - 1));
+    }
+
+    private static void wrongCalls() {
+        ShapeForms forms = new ShapeForms();
+        int circle = forms.circle(0, 0, 5);
+        int unfinished = Make.unfinished(forms);
+        int trace = forms.trace(2);
+        Check.noSuch("10: no first", () -> forms.nearer(3, circle, 0));
+        Check.noSuch("10: no second", () -> forms.nearer(circle, -1, 0));
+        Check.noSuch("10: no second, the first not whole", () -> forms.nearer(trace, 3, 0));
+        Check.noSuch("10: no first, and too far", () -> forms.nearer(-1, trace, -1));
+        Check.badState("10: the first not whole", () -> forms.nearer(unfinished, circle, 0));
+        Check.badState("10: the second not whole", () -> forms.nearer(circle, trace, 0));
+        Check.badState("10: not whole, and below 0", () -> forms.nearer(circle, trace, -1));
+        Check.badArgument("10: below 0", () -> forms.nearer(circle, circle, -1));
+        Check.badArgument("10: too far", () -> forms.nearer(circle, circle, Make.BILLION + 1));
+        Check.badArgument("10: the greatest long", () -> forms.nearer(circle, circle, Long.MAX_VALUE));
+        Check.badArgument("10: the least long", () -> forms.nearer(circle, circle, Long.MIN_VALUE));
+    }
+}
