@@ -343,29 +343,13 @@ public final class ShapeForms {
             return (xs[end] - xs[side]) * (y - ys[side]) - (ys[end] - ys[side]) * (x - xs[side]);
         }
 
-        boolean isOnSide(int side, long x, long y) {
-            int end = ends[side];
-            return cross(side, x, y) == 0
-                    && x >= Math.min(xs[side], xs[end]) && x <= Math.max(xs[side], xs[end])
-                    && y >= Math.min(ys[side], ys[end]) && y <= Math.max(ys[side], ys[end]);
-        }
-
-        boolean isOnSides(long x, long y) {
-            for (int side = 0; side < count; side++) {
-                if (isOnSide(side, x, y)) {
-                    return true;
-                }
-            }
-            return false;
-        }
-
         /** Whether a place that is on no side lies in the filled core: a ray to the right tells by its crossings. */
         boolean encloses(long x, long y) {
             boolean odd = false;
             for (int side = 0; filled && side < count; side++) {
                 boolean startsAbove = ys[side] > y;
                 boolean endsAbove = ys[ends[side]] > y;
-                if (startsAbove != endsAbove && cross(side, x, y) > 0 == endsAbove) {
+                if (startsAbove != endsAbove && (cross(side, x, y) > 0) == endsAbove) {
                     odd = !odd;
                 }
             }
@@ -384,7 +368,7 @@ public final class ShapeForms {
         /** -1, 0, 1: the place is nearer to the sides than reach, just that far, farther. */
         int compareToSides(long x, long y, long reach) {
             int least = 1;
-            for (int side = 0; side < count; side++) {
+            for (int side = 0; side < count && least >= 0; side++) {
                 least = Math.min(least, compareToSide(side, x, y, reach));
             }
             return least;
@@ -419,7 +403,7 @@ public final class ShapeForms {
             long from = byX ? other.xs[side] : other.ys[side];
             long to = byX ? other.xs[end] : other.ys[end];
             if (from == to) {
-                return isOnSides(other.xs[side], other.ys[side]);
+                return compareToSides(other.xs[side], other.ys[side], 0) == 0;
             }
             long last = Math.max(from, to);
             long covered = Math.min(from, to);
@@ -461,7 +445,7 @@ public final class ShapeForms {
 
         private static int compareCorners(Shape a, Shape b, long reach) {
             int least = 1;
-            for (int i = 0; i < a.count; i++) {
+            for (int i = 0; i < a.count && least >= 0; i++) {
                 least = Math.min(least, b.compareToSides(a.xs[i], a.ys[i], reach));
             }
             return least;
@@ -482,21 +466,22 @@ public final class ShapeForms {
         static boolean sidesMeet(Shape a, int side, Shape b, int other) {
             int end = a.ends[side];
             int otherEnd = b.ends[other];
-            if (liesBetween(a, side, b, other) && liesBetween(b, other, a, side)) {
-                return true;
-            }
-            return a.isOnSide(side, b.xs[other], b.ys[other])
-                    || a.isOnSide(side, b.xs[otherEnd], b.ys[otherEnd])
-                    || b.isOnSide(other, a.xs[side], a.ys[side])
-                    || b.isOnSide(other, a.xs[end], a.ys[end]);
+            // The spans settle pieces on one line, and places; the lines settle all others.
+            return spansMeet(a.xs[side], a.xs[end], b.xs[other], b.xs[otherEnd])
+                    && spansMeet(a.ys[side], a.ys[end], b.ys[other], b.ys[otherEnd])
+                    && !passesBeside(a, side, b, other) && !passesBeside(b, other, a, side);
         }
 
-        /** Whether the line of a's side parts the two ends of b's side. */
-        private static boolean liesBetween(Shape a, int side, Shape b, int other) {
+        private static boolean spansMeet(long a, long b, long c, long d) {
+            return Math.max(Math.min(a, b), Math.min(c, d)) <= Math.min(Math.max(a, b), Math.max(c, d));
+        }
+
+        /** Whether b's side has no point on the line of a's side. */
+        private static boolean passesBeside(Shape a, int side, Shape b, int other) {
             int otherEnd = b.ends[other];
             long first = a.cross(side, b.xs[other], b.ys[other]);
             long second = a.cross(side, b.xs[otherEnd], b.ys[otherEnd]);
-            return first < 0 && second > 0 || first > 0 && second < 0;
+            return first < 0 && second < 0 || first > 0 && second > 0;
         }
 
         /** A filled core is told by its edge, which is all its rings; any other core is its sides. */

@@ -100,6 +100,12 @@ public final class NearerTest {
         apart("piece to end", forms, trace, Make.trace(forms, 0, 0, 20, 20, 20), 9);
         apart("on one line", forms, Make.trace(forms, 0, 0, 40, 5, 40), Make.trace(forms, 0, 8, 40, 9, 40), 3);
         apart("one corner alone", forms, trace, Make.trace(forms, 2, 4, 7), 4);
+        apart("the first corner is just as far as a whole number, the next one nearer", forms,
+                Make.trace(forms, 0, 70, 70, 72, 70), forms.circle(74, 70, 0), 2);
+        Check.due("10: the nearer corner counts, not the first that is just so far", 1,
+                () -> forms.nearer(Make.trace(forms, 0, 70, 70, 72, 70), forms.circle(74, 70, 0), 4));
+        Check.due("10: nor the first piece", 1,
+                () -> forms.nearer(Make.trace(forms, 0, 70, 90, 80, 90, 78, 84), forms.circle(78, 80, 0), 10));
         apart("closed round a place, it holds it not", forms,
                 Make.trace(forms, 0, 50, 50, 60, 50, 60, 60, 50, 60, 50, 50), forms.circle(55, 55, 1), 4);
     }

@@ -63,6 +63,9 @@ public final class SameTest {
         int gap = Make.trace(forms, 0, 0, 0, 4, 0, 4, 2, 5, 2, 5, 0, 9, 0);
         int bridge = Make.trace(forms, 0, 0, 0, 9, 0, 5, 0, 5, 2, 4, 2, 4, 0);
         differ("a gap of 1", forms, gap, bridge);
+        differ("a gap of 1, upright", forms, forms.turn(gap, 1, false), forms.turn(bridge, 1, false));
+        differ("a slant gap", forms, Make.trace(forms, 0, 0, 0, 3, 6, 9, 6, 4, 8, 6, 12),
+                Make.trace(forms, 0, 0, 0, 6, 12, 4, 8, 9, 6, 3, 6));
         int square = Make.trace(forms, 0, 0, 0, 9, 0, 9, 9, 0, 9, 0, 0);
         same("a closed trace from elsewhere", forms, square, Make.trace(forms, 0, 9, 9, 9, 0, 0, 0, 0, 9, 9, 9));
         differ("a closed trace is not filled", forms, square, forms.box(0, 0, 9, 9, 0));
