@@ -35,7 +35,7 @@ public final class FaceTest {
         Path program = Path.of(args.length > 0 ? args[0] : "src/main/java/ShapeForms.java");
         String source = withoutComments(Files.readString(program));
         for (String word : new String[] {"import", "package", "try", "catch", "finally", "synchronized", "assert",
-                "native", "protected", "double", "float", "var", "lambda"}) {
+                "native", "protected", "double", "float", "var"}) {
             Check.due("the program has no " + word, false, () -> has(source, "\\b" + word + "\\b"));
         }
         Check.due("no lambda", false, () -> has(source, "->"));
