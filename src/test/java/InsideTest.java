@@ -6,8 +6,12 @@ public final class InsideTest {
         polygons();
         concave();
         traces();
+        edgesByOne();
         great();
-        wrongCalls();
+        Edges.shapeNumbers("9", Sample.CIRCLE, (forms, shape) -> forms.inside(shape, 0, 0));
+        Edges.needsWhole("9", (forms, shape) -> forms.inside(shape, 0, 0));
+        Edges.places("9", forms -> forms.circle(0, 0, 5), (forms, x, y) -> forms.inside(0, x, y));
+        wrongTwice();
         Check.end("InsideTest");
     }
 
@@ -91,6 +95,43 @@ public final class InsideTest {
         Check.due("9: round about it", false, () -> forms.inside(dot, 9, 9));
     }
 
+    /** "all points that are not farther than that from the core": the last place to each side, and the next. */
+    private static void edgesByOne() {
+        ShapeForms forms = new ShapeForms();
+        reaches("a circle", forms, forms.circle(10, 20, 5), 5, 15, 15, 25);
+        reaches("a circle of one place", forms, forms.circle(10, 20, 0), 10, 20, 10, 20);
+        reaches("a box", forms, forms.box(0, 10, 20, 20, 0), 0, 10, 20, 30);
+        reaches("a round box", forms, forms.box(0, 10, 20, 20, 4), 0, 10, 20, 30);
+        reaches("a grown box", forms, forms.grow(forms.box(0, 10, 20, 20, 4), 7), -7, 3, 27, 37);
+        reaches("a box of one place", forms, forms.box(10, 20, 0, 0, 0), 10, 20, 10, 20);
+        int diamond = Make.polygon(forms, 10, 10, 20, 20, 10, 30, 0, 20);
+        reaches("a polygon", forms, diamond, 0, 10, 20, 30);
+        reaches("a grown polygon", forms, forms.grow(diamond, 1), -1, 9, 21, 31);
+        reaches("a trace of one corner", forms, Make.trace(forms, 6, 10, 20), 7, 17, 13, 23);
+        int cross = Make.trace(forms, 2, 0, 20, 20, 20, 10, 20, 10, 30, 10, 10);
+        reaches("a trace", forms, cross, -1, 9, 21, 31);
+        int frame = forms.grow(Make.frame(forms), 2);
+        Check.due("9: a grown frame, the last place in its hole's edge", true, () -> forms.inside(frame, 7, 10));
+        Check.due("9: a grown frame, the next one", false, () -> forms.inside(frame, 8, 10));
+        int plain = Make.frame(forms);
+        Check.due("9: a frame, on its hole's edge", true, () -> forms.inside(plain, 15, 10));
+        Check.due("9: a frame, before it", false, () -> forms.inside(plain, 14, 10));
+        Check.due("9: a frame, on its hole's corner", true, () -> forms.inside(plain, 15, 15));
+        Check.due("9: a frame, before that corner", false, () -> forms.inside(plain, 14, 14));
+    }
+
+    /** Along the lines x = 10 and y = 20, the shape goes from left to right and from low to high. */
+    private static void reaches(String what, ShapeForms forms, int shape, long left, long low, long right, long high) {
+        Check.due("9: " + what + ", left", true, () -> forms.inside(shape, left, 20));
+        Check.due("9: " + what + ", left of it", false, () -> forms.inside(shape, left - 1, 20));
+        Check.due("9: " + what + ", right", true, () -> forms.inside(shape, right, 20));
+        Check.due("9: " + what + ", right of it", false, () -> forms.inside(shape, right + 1, 20));
+        Check.due("9: " + what + ", low", true, () -> forms.inside(shape, 10, low));
+        Check.due("9: " + what + ", below", false, () -> forms.inside(shape, 10, low - 1));
+        Check.due("9: " + what + ", high", true, () -> forms.inside(shape, 10, high));
+        Check.due("9: " + what + ", above", false, () -> forms.inside(shape, 10, high + 1));
+    }
+
     private static void great() {
         ShapeForms forms = new ShapeForms();
         int line = Make.trace(forms, 0, -Make.FAR, -Make.FAR, Make.FAR, Make.FAR - 1);
@@ -104,19 +145,28 @@ public final class InsideTest {
         int all = forms.circle(-Make.FAR, -Make.FAR, Make.BILLION);
         Check.due("9: the greatest radius", true, () -> forms.inside(all, Make.FAR, -Make.FAR));
         Check.due("9: over it", false, () -> forms.inside(all, Make.FAR, 1 - Make.FAR));
+        int square = Make.polygon(forms, -Make.FAR, -Make.FAR, Make.FAR, -Make.FAR, Make.FAR, Make.FAR,
+                -Make.FAR, Make.FAR);
+        Make.ring(forms, square, 1 - Make.FAR, 1 - Make.FAR, Make.FAR - 1, 1 - Make.FAR, Make.FAR - 1, Make.FAR - 1,
+                1 - Make.FAR, Make.FAR - 1);
+        Check.due("9: the farthest corner", true, () -> forms.inside(square, Make.FAR, Make.FAR));
+        Check.due("9: the corner of the greatest hole", true, () -> forms.inside(square, Make.FAR - 1, 1 - Make.FAR));
+        Check.due("9: in the greatest hole", false, () -> forms.inside(square, Make.FAR - 2, 2 - Make.FAR));
+        int full = Make.fullPolygon(forms);
+        Check.due("9: a polygon of 48 corners, its last one", true, () -> forms.inside(full, 23, -100));
+        Check.due("9: below its last one", false, () -> forms.inside(full, 23, -101));
+        Check.due("9: a polygon of 48 corners, a tooth", true, () -> forms.inside(full, 45, 1));
+        Check.due("9: between two teeth", false, () -> forms.inside(full, 44, 1));
+        int trace = Make.fullTrace(forms);
+        Check.due("9: a trace of 48 corners, behind its last one", true, () -> forms.inside(trace, 48, 1));
+        Check.due("9: farther behind", false, () -> forms.inside(trace, 49, 1));
     }
 
-    private static void wrongCalls() {
-        ShapeForms forms = new ShapeForms();
-        int circle = forms.circle(0, 0, 5);
-        int unfinished = Make.unfinished(forms);
-        int trace = forms.trace(2);
-        Check.noSuch("9: no such shape", () -> forms.inside(3, 0, 0));
-        Check.noSuch("9: below 0, and no place", () -> forms.inside(-1, Make.FAR + 1, 0));
-        Check.badState("9: not whole", () -> forms.inside(unfinished, 0, 0));
-        Check.badState("9: no corners, and no place", () -> forms.inside(trace, Make.FAR + 1, 0));
-        Check.badArgument("9: x no place", () -> forms.inside(circle, -Make.FAR - 1, 0));
-        Check.badArgument("9: y no place", () -> forms.inside(circle, 0, Make.FAR + 1));
-        Check.badArgument("9: the least long", () -> forms.inside(circle, Long.MIN_VALUE, Long.MIN_VALUE));
+    private static void wrongTwice() {
+        Edges.leaves("9: no such shape, and no place", Edges.NO_SUCH, forms -> forms.circle(0, 0, 5),
+                forms -> forms.inside(1, Make.FAR + 1, 0));
+        Edges.leaves("9: not whole, and no place", Edges.BAD_STATE, forms -> forms.trace(2),
+                forms -> forms.inside(0, Make.FAR + 1, 0));
+        Edges.leaves("9: asking changes nothing", true, Make::frame, forms -> forms.inside(0, 1, 1));
     }
 }

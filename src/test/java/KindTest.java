@@ -15,10 +15,23 @@ public final class KindTest {
         Check.due("13: grown by 0", 2, () -> forms.kind(forms.grow(frame, 0)));
         Check.due("13: grown and shrunk", 2, () -> forms.kind(forms.grow(forms.grow(frame, 5), -5)));
         Check.due("13: a grown circle", 0, () -> forms.kind(forms.grow(forms.circle(0, 0, 5), 5)));
-        Check.noSuch("13: below 0", () -> forms.kind(-1));
-        Check.noSuch("13: the next number", () -> forms.kind(forms.circle(0, 0, 1) + 1));
-        Check.noSuch("13: 40", () -> forms.kind(40));
-        Check.noSuch("13: the greatest int", () -> forms.kind(Integer.MAX_VALUE));
+        Check.due("13: a grown box", 1, () -> forms.kind(forms.grow(forms.box(0, 0, 4, 4, 0), 5)));
+        Check.due("13: a grown trace", 3, () -> forms.kind(forms.grow(Make.trace(forms, 0, 1, 1), 5)));
+        Check.due("13: a grown polygon, turned", 4, () -> forms.kind(forms.turn(forms.grow(frame, 1), 1, true)));
+        Check.due("13: a polygon grown by the most", 4, () -> forms.kind(forms.grow(frame, Make.BILLION)));
+        Edges.shapeNumbers("13", Sample.CIRCLE, (more, shape) -> more.kind(shape));
+        withoutWhole();
         Check.end("KindTest");
+    }
+
+    /** A kind is told of shapes that are not WHOLE, too, and asking changes none of them. */
+    private static void withoutWhole() {
+        for (Sample sample : Sample.values()) {
+            String name = sample.name();
+            int kind = name.startsWith("CIRCLE") ? 0 : name.startsWith("BOX") ? 1
+                    : name.startsWith("POLYGON") ? 2 : name.startsWith("TRACE") ? 3 : 4;
+            int[] shape = new int[1];
+            Edges.leaves("13: " + name, kind, forms -> shape[0] = sample.on(forms), forms -> forms.kind(shape[0]));
+        }
     }
 }

@@ -6,8 +6,11 @@ public final class NearerTest {
         polygons();
         isles();
         traces();
+        touchingByOne();
         great();
-        wrongCalls();
+        full();
+        wrongNumbers();
+        wrongTwice();
         Check.end("NearerTest");
     }
 
@@ -110,6 +113,36 @@ public final class NearerTest {
                 Make.trace(forms, 0, 50, 50, 60, 50, 60, 60, 50, 60, 50, 50), forms.circle(55, 55, 1), 4);
     }
 
+    /** "(0 when they have one in common)": one point in common, and none by 1. */
+    private static void touchingByOne() {
+        ShapeForms forms = new ShapeForms();
+        int circle = forms.circle(0, 0, 5);
+        apart("circle and circle, touching", forms, circle, forms.circle(10, 0, 5), 0);
+        apart("circle and circle, by 1", forms, circle, forms.circle(11, 0, 5), 1);
+        apart("circle and box, touching", forms, circle, forms.box(5, -3, 4, 6, 0), 0);
+        apart("circle and box, by 1", forms, circle, forms.box(6, -3, 4, 6, 0), 1);
+        apart("circle and box's corner, touching", forms, circle, forms.box(3, 4, 4, 6, 0), 0);
+        apart("circle and trace, touching", forms, circle, Make.trace(forms, 4, 7, -9, 7, 9), 0);
+        apart("circle and trace, by 1", forms, circle, Make.trace(forms, 4, 8, -9, 8, 9), 1);
+        int frame = Make.frame(forms);
+        apart("circle and polygon, touching", forms, frame, forms.circle(23, 4, 3), 0);
+        apart("circle and polygon, by 1", forms, frame, forms.circle(24, 4, 3), 1);
+        apart("circle in a hole, touching", forms, frame, forms.circle(10, 10, 5), 0);
+        apart("circle in a hole, by 1", forms, frame, forms.circle(10, 10, 4), 1);
+        apart("polygon and polygon, touching", forms, frame, Make.polygon(forms, 20, 9, 30, 0, 30, 20), 0);
+        apart("polygon and polygon, by 1", forms, frame, Make.polygon(forms, 21, 9, 30, 0, 30, 20), 1);
+        apart("polygon in a hole, touching", forms, frame, Make.polygon(forms, 5, 9, 12, 9, 12, 12), 0);
+        apart("polygon in a hole, by 1", forms, frame, Make.polygon(forms, 6, 9, 12, 9, 12, 12), 1);
+        int grown = forms.grow(frame, 2);
+        apart("grown polygon and place, touching", forms, grown, forms.circle(22, 9, 0), 0);
+        apart("grown polygon and place, by 1", forms, grown, forms.circle(23, 9, 0), 1);
+        int trace = Make.trace(forms, 0, 40, 0, 50, 0, 50, 10);
+        apart("trace and trace, end on piece", forms, trace, Make.trace(forms, 0, 45, 0, 45, -9), 0);
+        apart("trace and trace, end by 1 from piece", forms, trace, Make.trace(forms, 0, 45, -1, 45, -9), 1);
+        apart("trace and trace, end on end", forms, trace, Make.trace(forms, 0, 40, 0, 30, 9), 0);
+        apart("trace and trace, end by 1 from end", forms, trace, Make.trace(forms, 0, 39, 0, 30, 0), 1);
+    }
+
     private static void great() {
         ShapeForms forms = new ShapeForms();
         int low = forms.circle(-Make.FAR, -Make.FAR, 0);
@@ -130,21 +163,40 @@ public final class NearerTest {
         Check.due("10: and one less", -1, () -> forms.nearer(low, wall, Make.BILLION - 1));
     }
 
-    private static void wrongCalls() {
+    private static void full() {
         ShapeForms forms = new ShapeForms();
-        int circle = forms.circle(0, 0, 5);
-        int unfinished = Make.unfinished(forms);
-        int trace = forms.trace(2);
-        Check.noSuch("10: no first", () -> forms.nearer(3, circle, 0));
-        Check.noSuch("10: no second", () -> forms.nearer(circle, -1, 0));
-        Check.noSuch("10: no second, the first not whole", () -> forms.nearer(trace, 3, 0));
-        Check.noSuch("10: no first, and too far", () -> forms.nearer(-1, trace, -1));
-        Check.badState("10: the first not whole", () -> forms.nearer(unfinished, circle, 0));
-        Check.badState("10: the second not whole", () -> forms.nearer(circle, trace, 0));
-        Check.badState("10: not whole, and below 0", () -> forms.nearer(circle, trace, -1));
-        Check.badArgument("10: below 0", () -> forms.nearer(circle, circle, -1));
-        Check.badArgument("10: too far", () -> forms.nearer(circle, circle, Make.BILLION + 1));
-        Check.badArgument("10: the greatest long", () -> forms.nearer(circle, circle, Long.MAX_VALUE));
-        Check.badArgument("10: the least long", () -> forms.nearer(circle, circle, Long.MIN_VALUE));
+        int polygon = Make.fullPolygon(forms);
+        apart("by the last of 48 corners", forms, polygon, forms.circle(23, -110, 3), 7);
+        between("by the closing side", forms, polygon, forms.circle(0, -100, 0), 22, 23);
+        int trace = Make.fullTrace(forms);
+        apart("by the last of a trace's 48", forms, trace, forms.circle(60, 1, 2), 10);
+        apart("two full ones, side by side", forms, polygon, forms.turn(trace, 2, false), 0);
+        Make.circles(forms, 33);
+        apart("the first shape and the 40th", forms, 0, forms.circle(1, 200, 1), 198);
+    }
+
+    private static void wrongNumbers() {
+        Edges.shapeNumbers("10: a", Sample.CIRCLE, (forms, shape) -> forms.nearer(shape, 0, 1));
+        Edges.shapeNumbers("10: b", Sample.CIRCLE, (forms, shape) -> forms.nearer(0, shape, 1));
+        Edges.shapeNumbers("10: a and b", Sample.CIRCLE, (forms, shape) -> forms.nearer(shape, shape, 1));
+        Edges.needsWhole("10: a", (forms, shape) -> forms.nearer(shape, 0, 1));
+        Edges.needsWhole("10: b", (forms, shape) -> forms.nearer(0, shape, 1));
+        Edges.needsWhole("10: a and b", (forms, shape) -> forms.nearer(shape, shape, 1));
+        Edges.numbers("10: distance", 0, Make.BILLION, forms -> forms.circle(0, 0, 1),
+                (forms, distance) -> forms.nearer(0, 0, distance));
+    }
+
+    private static void wrongTwice() {
+        Edges.Build circleAndTrace = forms -> {
+            forms.circle(0, 0, 5);
+            forms.trace(2);
+        };
+        Edges.leaves("10: no second, the first not whole", Edges.NO_SUCH, circleAndTrace,
+                forms -> forms.nearer(1, 2, 0));
+        Edges.leaves("10: no first, the second not whole", Edges.NO_SUCH, circleAndTrace,
+                forms -> forms.nearer(-1, 1, 0));
+        Edges.leaves("10: no first, and below 0", Edges.NO_SUCH, circleAndTrace, forms -> forms.nearer(2, 0, -1));
+        Edges.leaves("10: not whole, and below 0", Edges.BAD_STATE, circleAndTrace, forms -> forms.nearer(0, 1, -1));
+        Edges.leaves("10: asking changes nothing", 0, circleAndTrace, forms -> forms.nearer(0, 0, 0));
     }
 }

@@ -7,7 +7,17 @@ public final class SameTest {
         areas();
         rings();
         great();
-        wrongCalls();
+        full();
+        radii();
+        for (Sample sample : Sample.values()) {
+            if (sample.whole) {
+                ShapeForms forms = new ShapeForms();
+                int shape = sample.on(forms);
+                same(sample + " and itself", forms, shape, shape);
+                same(sample + " and its copy", forms, shape, forms.grow(shape, 0));
+            }
+        }
+        wrongNumbers();
         Check.end("SameTest");
     }
 
@@ -124,17 +134,55 @@ public final class SameTest {
         same("many parts end to end, told backwards", forms, steps, many);
     }
 
-    private static void wrongCalls() {
+    private static void full() {
         ShapeForms forms = new ShapeForms();
-        int circle = forms.circle(0, 0, 5);
-        int unfinished = Make.unfinished(forms);
-        int trace = forms.trace(10);
-        Check.noSuch("14: no first", () -> forms.same(3, circle));
-        Check.noSuch("14: no second", () -> forms.same(circle, -1));
-        Check.noSuch("14: no second, the first not whole", () -> forms.same(trace, 3));
-        Check.noSuch("14: no first, the second not whole", () -> forms.same(-1, trace));
-        Check.badState("14: the first not whole", () -> forms.same(unfinished, circle));
-        Check.badState("14: the second not whole", () -> forms.same(circle, trace));
-        Check.badState("14: one that is not whole with itself", () -> forms.same(unfinished, unfinished));
+        int polygon = Make.fullPolygon(forms);
+        same("a full polygon, turned all round", forms, polygon, forms.turn(polygon, 4, false));
+        int missing = forms.polygon();
+        Make.teeth(forms, missing, 47);
+        Make.ring(forms, missing, 23, -101);
+        differ("but for the last corner by 1", forms, polygon, missing);
+        int trace = Make.fullTrace(forms);
+        same("a full trace, mirrored twice", forms, trace, forms.turn(forms.turn(trace, 0, true), 0, true));
+        int shorter = forms.trace(2);
+        Make.teeth(forms, shorter, 47);
+        differ("but for the last piece", forms, trace, shorter);
+        Make.circles(forms, 32);
+        int last = forms.circle(0, 0, 1);
+        Check.due("14: that is the 40th shape", 39, () -> last);
+        same("the 40th shape and an earlier one", forms, last, 7);
+    }
+
+    private static void radii() {
+        ShapeForms forms = new ShapeForms();
+        int circle = forms.circle(2, 2, 0);
+        differ("0 and 1", forms, circle, forms.circle(2, 2, 1));
+        differ("the greatest and one less", forms, forms.circle(2, 2, Make.BILLION),
+                forms.circle(2, 2, Make.BILLION - 1));
+        same("the greatest twice", forms, forms.circle(2, 2, Make.BILLION), forms.grow(circle, Make.BILLION));
+        int frame = Make.frame(forms);
+        differ("a frame and a grown one", forms, frame, forms.grow(frame, 1));
+        differ("whose hole is grown over", forms, forms.grow(frame, 9),
+                forms.grow(forms.box(0, 0, 20, 20, 0), 9));
+    }
+
+    private static void wrongNumbers() {
+        Edges.shapeNumbers("14: a", Sample.CIRCLE, (forms, shape) -> forms.same(shape, 0));
+        Edges.shapeNumbers("14: b", Sample.CIRCLE, (forms, shape) -> forms.same(0, shape));
+        Edges.shapeNumbers("14: a and b", Sample.CIRCLE, (forms, shape) -> forms.same(shape, shape));
+        Edges.needsWhole("14: a", (forms, shape) -> forms.same(shape, 0));
+        Edges.needsWhole("14: b", (forms, shape) -> forms.same(0, shape));
+        Edges.needsWhole("14: a and b", (forms, shape) -> forms.same(shape, shape));
+        Edges.Build circleAndTrace = forms -> {
+            forms.circle(0, 0, 5);
+            forms.trace(10);
+        };
+        Edges.leaves("14: no second, the first not whole", Edges.NO_SUCH, circleAndTrace, forms -> forms.same(1, 2));
+        Edges.leaves("14: no first, the second not whole", Edges.NO_SUCH, circleAndTrace, forms -> forms.same(-1, 1));
+        Edges.leaves("14: radii that differ, and not whole", Edges.BAD_STATE, forms -> {
+            forms.circle(0, 0, 5);
+            forms.trace(2);
+        }, forms -> forms.same(0, 1));
+        Edges.leaves("14: asking changes nothing", true, circleAndTrace, forms -> forms.same(0, 0));
     }
 }
