@@ -81,6 +81,8 @@ public final class BoxTest {
         good("as round as can be", -Make.FAR, -Make.FAR, Make.BILLION, Make.BILLION, Make.FAR);
         bad("w so great that x + w wraps around", 1, 0, Long.MAX_VALUE, 4, 0);
         bad("h so great that y + h wraps around", 0, 1, 4, Long.MAX_VALUE, 0);
+        bad("w below 0, though x + w is a place", 0, 0, -1, 4, 0);
+        bad("h below 0, though y + h is a place", 0, 0, 4, -1, 0);
         bad("both below 0", 0, 0, -1, -1, 0);
     }
 

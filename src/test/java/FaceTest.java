@@ -15,19 +15,19 @@ public final class FaceTest {
             final ShapeForms
             static final int NONE
             new ()
-            boolean corner(int,long,long)
-            boolean inside(int,long,long)
-            boolean ring(int)
-            boolean same(int,int)
-            int box(long,long,long,long,long)
-            int circle(long,long,long)
-            int grow(int,long)
-            int kind(int)
-            int nearer(int,int,long)
+            boolean corner(int,long,long) IndexOutOfBounds IllegalState IllegalArgument
+            boolean inside(int,long,long) IndexOutOfBounds IllegalState IllegalArgument
+            boolean ring(int) IndexOutOfBounds IllegalState
+            boolean same(int,int) IndexOutOfBounds IllegalState
+            int box(long,long,long,long,long) IllegalArgument
+            int circle(long,long,long) IllegalArgument
+            int grow(int,long) IndexOutOfBounds IllegalState IllegalArgument
+            int kind(int) IndexOutOfBounds
+            int nearer(int,int,long) IndexOutOfBounds IllegalState IllegalArgument
             int polygon()
-            int trace(long)
-            int turn(int,int,boolean)
-            long boxOf(int,int)
+            int trace(long) IllegalArgument
+            int turn(int,int,boolean) IndexOutOfBounds IllegalState
+            long boxOf(int,int) IndexOutOfBounds IllegalState
             """;
 
     public static void main(String[] args) throws IOException {
@@ -66,7 +66,8 @@ public final class FaceTest {
             if (Modifier.isPrivate(method.getModifiers())) {
                 names.add(method.getName());
             } else {
-                methods.add(method.getReturnType() + " " + method.getName() + parameters(method.getParameterTypes()));
+                methods.add(method.getReturnType() + " " + method.getName() + parameters(method.getParameterTypes())
+                        + thrown(method));
             }
         }
         for (String method : methods) {
@@ -84,6 +85,14 @@ public final class FaceTest {
             text.append(text.length() > 1 ? "," : "").append(type.getSimpleName());
         }
         return text.append(')').toString();
+    }
+
+    private static String thrown(Method method) {
+        StringBuilder text = new StringBuilder();
+        for (Class<?> type : method.getExceptionTypes()) {
+            text.append(' ').append(type.getSimpleName().replace("Exception", ""));
+        }
+        return text.toString();
     }
 
     private static boolean fewParameters() {

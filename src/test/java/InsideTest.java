@@ -4,6 +4,7 @@ public final class InsideTest {
         circles();
         boxes();
         polygons();
+        nested();
         concave();
         traces();
         edgesByOne();
@@ -61,6 +62,25 @@ public final class InsideTest {
         Check.due("9: grown, deep within", true, () -> forms.inside(grown, 10, 10));
     }
 
+    /** "the points within an odd number of its RINGS, and those on them": twelve, one in another, have 48 corners. */
+    private static void nested() {
+        ShapeForms forms = new ShapeForms();
+        int nest = forms.polygon();
+        for (int i = 1; i <= 12; i++) {
+            long half = 10 * i;
+            Check.due("9: ring " + i + " of 12", true,
+                    () -> Make.ring(forms, nest, -half, -half, half, -half, half, half, -half, half));
+        }
+        for (int i = 1; i <= 12; i++) {
+            long half = 10 * i;
+            int around = 13 - i;
+            Check.due("9: within " + around + " rings", around % 2 == 1, () -> forms.inside(nest, half - 5, 0));
+            Check.due("9: on the inmost of " + around + " rings", true, () -> forms.inside(nest, 0, half));
+        }
+        Check.due("9: the middle of 12 rings", false, () -> forms.inside(nest, 0, 0));
+        Check.due("9: out of all 12 rings", false, () -> forms.inside(nest, 121, 0));
+    }
+
     private static void concave() {
         ShapeForms forms = new ShapeForms();
         int star = Make.polygon(forms, 0, 0, 10, 5, 20, 0, 15, 10, 20, 20, 10, 15, 0, 20, 5, 10);
@@ -70,6 +90,12 @@ public final class InsideTest {
         Check.due("9: level with the lowest corners", false, () -> forms.inside(star, 10, 0));
         Check.due("9: level with the upper corners", false, () -> forms.inside(star, 10, 20));
         Check.due("9: left of the lowest corners", false, () -> forms.inside(star, -5, 0));
+        int slope = Make.polygon(forms, 30, 0, 31, 2, 39, 0);
+        Check.due("9: left of a steep side by less than 1", false, () -> forms.inside(slope, 30, 1));
+        Check.due("9: right of it by less than 1", true, () -> forms.inside(slope, 31, 1));
+        int back = forms.turn(slope, 0, true);
+        Check.due("9: right of a steep side by less than 1", false, () -> forms.inside(back, -30, 1));
+        Check.due("9: left of it by less than 1", true, () -> forms.inside(back, -31, 1));
         int step = Make.polygon(forms, 0, 0, 10, 0, 10, 5, 20, 5, 20, 10, 0, 10);
         Check.due("9: level with a side, within", true, () -> forms.inside(step, 4, 5));
         Check.due("9: level with a side, left", false, () -> forms.inside(step, -4, 5));

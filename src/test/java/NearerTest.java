@@ -7,7 +7,9 @@ public final class NearerTest {
         isles();
         traces();
         touchingByOne();
+        byLessThanOne();
         great();
+        slantAndGreat();
         full();
         wrongNumbers();
         wrongTwice();
@@ -141,6 +143,75 @@ public final class NearerTest {
         apart("trace and trace, end by 1 from piece", forms, trace, Make.trace(forms, 0, 45, -1, 45, -9), 1);
         apart("trace and trace, end on end", forms, trace, Make.trace(forms, 0, 40, 0, 30, 9), 0);
         apart("trace and trace, end by 1 from end", forms, trace, Make.trace(forms, 0, 39, 0, 30, 0), 1);
+    }
+
+    /** Distances between 0 and 1, of pieces that nearly cross and of places just past a piece's end. */
+    private static void byLessThanOne() {
+        ShapeForms forms = new ShapeForms();
+        int steep = Make.trace(forms, 0, 0, 0, 1, 2);
+        between("a piece that ends left of another", forms, steep, Make.trace(forms, 0, -5, 1, 0, 1), 0, 1);
+        between("a piece that begins left of another", forms, steep, Make.trace(forms, 0, 0, 1, -5, 1), 0, 1);
+        between("a piece that ends right of another", forms, steep, Make.trace(forms, 0, 6, 1, 1, 1), 0, 1);
+        between("a piece that begins right of another", forms, steep, Make.trace(forms, 0, 1, 1, 6, 1), 0, 1);
+        apart("a piece across it", forms, steep, Make.trace(forms, 0, 0, 1, 1, 1), 0);
+        int shortest = Make.trace(forms, 0, 10, 10, 11, 11);
+        between("a place beside the shortest slant piece", forms, shortest, forms.circle(11, 10, 0), 0, 1);
+        apart("a place behind its end", forms, shortest, forms.circle(12, 11, 0), 1);
+        int level = Make.trace(forms, 0, -100, 50, 100, 50);
+        int sinking = Make.trace(forms, 0, 0, 55, 10, 53);
+        apart("the second corner is nearer", forms, level, sinking, 3);
+        Check.due("10: the first is just that far", 1, () -> forms.nearer(level, sinking, 5));
+        Check.due("10: turned round", 1, () -> forms.nearer(sinking, level, 5));
+    }
+
+    /** Slant pieces and places whose squares are beyond a long, by whole distances and between two. */
+    private static void slantAndGreat() {
+        long[][] rows = {
+            // x, y of the piece's ends, x, y of the place, the distance without its fraction
+            {-301722466, 363181386, 49657712, 10846881, 176331422, 159233275, 194475865},
+            {-402643255, 78417751, 369349199, 456038768, 244573897, 181238488, 192024418},
+            {467334542, -331582173, -378446019, -100789921, 3659048, 432486208, 615055368},
+            {483918344, 431427111, 322191441, -81844868, -328626281, 318111197, 740929723},
+            {-12017707, -37981796, -28327037, 29224660, -29138918, -28266581, 14347153},
+            {17789655, -49026157, -26072133, -8069316, -14261483, 1279873, 14893922},
+            {76956, 2691329, 1694480, -2508715, 104034, 1887664, 212850},
+            {2408309, -2483458, -2735711, -501084, 2475494, -236912, 2120429},
+            {1655256, 1795493, -1432639, 2031160, -1323318, 1526552, 494825},
+            {-1225632, 134152, -1830528, -1741433, -2119067, -341418, 704334},
+            {236686, -217168, 2181, 522653, -949193, 152767, 1018668},
+            {429641, -91296, -740088, 655924, -925182, -816047, 1340118},
+            {-464854, -168392, 386060, -72607, -83261, 231134, 354333},
+            {963563, 626215, -522056, -267389, 436027, 886788, 495205},
+            {200128, -154041, 151919, 77078, 41574, -163535, 157151},
+            {191575, -271937, 92935, 231669, -259044, -114605, 411974},
+            {-30122, 246946, -134858, -278097, 96870, -156693, 203500},
+            {36622, -63321, -79124, -79172, -9530, 50598, 119127},
+            {19012, 33567, 12008, -37789, 12514, -14915, 1730},
+        };
+        for (long[] row : rows) {
+            ShapeForms forms = new ShapeForms();
+            int piece = Make.trace(forms, 0, row[0], row[1], row[2], row[3]);
+            between("a great slant " + row[6], forms, piece, forms.circle(row[4], row[5], 0), row[6], row[6] + 1);
+        }
+        exactSlant(3, 4, 5, 100_000_000L);
+        exactSlant(5, 12, 13, 40_000_000L);
+        exactSlant(20, 21, 29, 23_000_000L);
+        exactSlant(3, 4, 5, 1);
+    }
+
+    /** A piece through 0, 0 along x, y, and a place square to it: the distance is whole, and next to it not. */
+    private static void exactSlant(long x, long y, long length, long times) {
+        ShapeForms forms = new ShapeForms();
+        int piece = Make.trace(forms, 0, -x * times, -y * times, x * times, y * times);
+        long distance = length * times;
+        apart("a whole slant", forms, piece, forms.circle(-y * times, x * times, 0), distance);
+        between("1 above it", forms, piece, forms.circle(-y * times, x * times + 1, 0), distance, distance + 1);
+        between("1 to its right", forms, piece, forms.circle(1 - y * times, x * times, 0), distance - 1, distance);
+        int wide = forms.grow(piece, times);
+        int round = forms.circle(-y * times, x * times, times);
+        apart("grown on both sides", forms, wide, round, distance - 2 * times);
+        Check.due("10: the greatest reach across a slant", 1, () -> forms.nearer(forms.grow(piece, Make.BILLION),
+                forms.circle(-y * times, x * times, Make.BILLION), Make.BILLION));
     }
 
     private static void great() {

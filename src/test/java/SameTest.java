@@ -4,6 +4,7 @@ public final class SameTest {
         places();
         pieces();
         crossingPieces();
+        gaps();
         areas();
         rings();
         great();
@@ -58,6 +59,10 @@ public final class SameTest {
         differ("longer on the left", forms, piece, Make.trace(forms, 2, -1, 0, 10, 0));
         differ("side by side", forms, piece, Make.trace(forms, 2, 0, 1, 10, 1));
         differ("slant", forms, piece, Make.trace(forms, 2, 0, 0, 10, 1));
+        differ("both told backwards, one shorter", forms, Make.trace(forms, 2, 10, 0, 0, 0),
+                Make.trace(forms, 2, 10, 0, 5, 0));
+        differ("upright, both told backwards, one shorter", forms, Make.trace(forms, 2, 0, 10, 0, 0),
+                Make.trace(forms, 2, 0, 10, 0, 5));
         int upright = Make.trace(forms, 0, 3, -5, 3, 5);
         same("an upright box", forms, upright, forms.box(3, -5, 0, 10, 0));
         same("upright in parts", forms, upright, Make.trace(forms, 0, 3, 0, 3, 5, 3, -5));
@@ -80,6 +85,27 @@ public final class SameTest {
         same("a closed trace from elsewhere", forms, square, Make.trace(forms, 0, 9, 9, 9, 0, 0, 0, 0, 9, 9, 9));
         differ("a closed trace is not filled", forms, square, forms.box(0, 0, 9, 9, 0));
         differ("nor a polygon", forms, square, Make.polygon(forms, 0, 0, 9, 0, 9, 9, 0, 9));
+    }
+
+    /** Shapes that differ only between two corners, told in either direction. */
+    private static void gaps() {
+        ShapeForms forms = new ShapeForms();
+        int gap = Make.trace(forms, 0, 0, 0, 4, 0, 4, 2, 5, 2, 5, 0, 9, 0);
+        int bridge = Make.trace(forms, 0, 4, 0, 4, 2, 5, 2, 5, 0, 9, 0, 0, 0);
+        for (int quarters = 0; quarters < 4; quarters++) {
+            differ("a gap, turned by " + quarters, forms, forms.turn(gap, quarters, false),
+                    forms.turn(bridge, quarters, false));
+        }
+        for (long side : new long[] {-5, 5}) {
+            int[] closed = {Make.trace(forms, 0, 0, 0, 10, 0, 0, side, 0, 0),
+                Make.trace(forms, 0, 0, 0, 0, side, 10, 0, 0, 0)};
+            int[] half = {Make.trace(forms, 0, 5, 0, 10, 0, 0, side, 0, 0),
+                Make.trace(forms, 0, 0, 0, 0, side, 10, 0, 5, 0)};
+            for (int i = 0; i < 4; i++) {
+                differ("a slant piece covers no level one, " + i, forms, closed[i / 2], half[i % 2]);
+            }
+            same("a triangle told in both directions", forms, closed[0], closed[1]);
+        }
     }
 
     private static void areas() {
