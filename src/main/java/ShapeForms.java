@@ -502,6 +502,7 @@ public final class ShapeForms {
     /** Products of two longs that no long holds. */
     private static final class Wide {
         private static final long LOW_HALF = 0xFFFFFFFFL;
+        private static final long HALF_THE_RANGE = 1L << 63;
 
         /** Compares a * b with c * d; none of the four is below 0. */
         static int compareProducts(long a, long b, long c, long d) {
@@ -510,7 +511,7 @@ public final class ShapeForms {
                 return order;
             }
             // The low parts have no sign: moved by half their range, they compare as longs do.
-            return Long.compare(a * b + Long.MIN_VALUE, c * d + Long.MIN_VALUE);
+            return Long.compare(a * b + HALF_THE_RANGE, c * d + HALF_THE_RANGE);
         }
 
         private static long highPart(long a, long b) {

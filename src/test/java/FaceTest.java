@@ -12,23 +12,26 @@ import java.util.regex.Pattern;
 /** The public face is the document's, and the program leaves out what LANGUAGE.md leaves out. */
 public final class FaceTest {
     private static final String FACE = """
-            final ShapeForms
-            static final int NONE
-            new ()
-            boolean corner(int,long,long) IndexOutOfBounds IllegalState IllegalArgument
-            boolean inside(int,long,long) IndexOutOfBounds IllegalState IllegalArgument
-            boolean ring(int) IndexOutOfBounds IllegalState
-            boolean same(int,int) IndexOutOfBounds IllegalState
-            int box(long,long,long,long,long) IllegalArgument
-            int circle(long,long,long) IllegalArgument
-            int grow(int,long) IndexOutOfBounds IllegalState IllegalArgument
-            int kind(int) IndexOutOfBounds
-            int nearer(int,int,long) IndexOutOfBounds IllegalState IllegalArgument
-            int polygon()
-            int trace(long) IllegalArgument
-            int turn(int,int,boolean) IndexOutOfBounds IllegalState
-            long boxOf(int,int) IndexOutOfBounds IllegalState
+            public final ShapeForms
+            public static final int NONE
+            public ()
+            public boolean corner(int,long,long) IndexOutOfBounds IllegalState IllegalArgument
+            public boolean inside(int,long,long) IndexOutOfBounds IllegalState IllegalArgument
+            public boolean ring(int) IndexOutOfBounds IllegalState
+            public boolean same(int,int) IndexOutOfBounds IllegalState
+            public int box(long,long,long,long,long) IllegalArgument
+            public int circle(long,long,long) IllegalArgument
+            public int grow(int,long) IndexOutOfBounds IllegalState IllegalArgument
+            public int kind(int) IndexOutOfBounds
+            public int nearer(int,int,long) IndexOutOfBounds IllegalState IllegalArgument
+            public int polygon()
+            public int trace(long) IllegalArgument
+            public int turn(int,int,boolean) IndexOutOfBounds IllegalState
+            public long boxOf(int,int) IndexOutOfBounds IllegalState
             """;
+
+    /** All that the program uses of the library: rule 4 lists functions of Long and Math, and none of their constants. */
+    private static final String LIBRARY = "[Long.compare(), Math.abs(), Math.floorMod(), Math.max(), Math.min()]";
 
     public static void main(String[] args) throws IOException {
         Check.due("the face", FACE, FaceTest::face);
@@ -40,7 +43,7 @@ public final class FaceTest {
         }
         Check.due("no lambda", false, () -> has(source, "->"));
         Check.due("no method reference", false, () -> has(source, "::"));
-        Check.due("none of Math's Exact", false, () -> has(source, "Exact\\s*\\("));
+        Check.due("of the library, only functions that LANGUAGE.md lists", LIBRARY, () -> libraryOf(source));
         Check.due("at most twelve classes", true, () -> ShapeForms.class.getDeclaredClasses().length < 12);
         for (Class<?> inner : ShapeForms.class.getDeclaredClasses()) {
             Check.due(inner + " is static", true, () -> Modifier.isStatic(inner.getModifiers()));
@@ -51,14 +54,16 @@ public final class FaceTest {
 
     private static String face() {
         StringBuilder text = new StringBuilder();
-        text.append(Modifier.isFinal(ShapeForms.class.getModifiers()) ? "final " : "").append("ShapeForms\n");
+        text.append(Modifier.toString(ShapeForms.class.getModifiers())).append(" ShapeForms\n");
         for (Field field : ShapeForms.class.getDeclaredFields()) {
             if (!Modifier.isPrivate(field.getModifiers())) {
-                text.append("static final ").append(field.getType()).append(' ').append(field.getName()).append('\n');
+                text.append(Modifier.toString(field.getModifiers())).append(' ').append(field.getType()).append(' ')
+                        .append(field.getName()).append('\n');
             }
         }
         for (Constructor<?> made : ShapeForms.class.getDeclaredConstructors()) {
-            text.append("new ").append(parameters(made.getParameterTypes())).append('\n');
+            text.append(Modifier.toString(made.getModifiers())).append(' ')
+                    .append(parameters(made.getParameterTypes())).append('\n');
         }
         TreeSet<String> methods = new TreeSet<>();
         TreeSet<String> names = new TreeSet<>();
@@ -66,8 +71,8 @@ public final class FaceTest {
             if (Modifier.isPrivate(method.getModifiers())) {
                 names.add(method.getName());
             } else {
-                methods.add(method.getReturnType() + " " + method.getName() + parameters(method.getParameterTypes())
-                        + thrown(method));
+                methods.add(Modifier.toString(method.getModifiers()) + " " + method.getReturnType() + " "
+                        + method.getName() + parameters(method.getParameterTypes()) + thrown(method));
             }
         }
         for (String method : methods) {
@@ -96,13 +101,35 @@ public final class FaceTest {
     }
 
     private static boolean fewParameters() {
-        boolean few = true;
+        boolean few = takesAtMostSeven(ShapeForms.class);
         for (Class<?> inner : ShapeForms.class.getDeclaredClasses()) {
-            for (Method method : inner.getDeclaredMethods()) {
-                few &= method.getParameterCount() <= 7;
-            }
+            few &= takesAtMostSeven(inner);
         }
         return few;
+    }
+
+    private static boolean takesAtMostSeven(Class<?> type) {
+        boolean few = true;
+        for (Method method : type.getDeclaredMethods()) {
+            few &= method.getParameterCount() <= 7;
+        }
+        return few;
+    }
+
+    /** Each Name.member of a class that is not the program's own, a function with its brackets. */
+    private static String libraryOf(String source) {
+        TreeSet<String> own = new TreeSet<>();
+        for (Class<?> inner : ShapeForms.class.getDeclaredClasses()) {
+            own.add(inner.getSimpleName());
+        }
+        TreeSet<String> used = new TreeSet<>();
+        Matcher matcher = Pattern.compile("\\b([A-Z]\\w*)\\s*\\.\\s*(\\w+)(\\s*\\()?").matcher(source);
+        while (matcher.find()) {
+            if (!own.contains(matcher.group(1))) {
+                used.add(matcher.group(1) + "." + matcher.group(2) + (matcher.group(3) == null ? "" : "()"));
+            }
+        }
+        return used.toString();
     }
 
     private static String withoutComments(String source) {
